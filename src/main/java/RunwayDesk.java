@@ -480,7 +480,6 @@ public final class RunwayDesk {
             line = new int[MOST_MOVEMENTS];
             standing = new boolean[MOST_MOVEMENTS];
             best = new int[MOST_MOVEMENTS];
-            least = NONE;
         }
 
         int leastDelay(State state) {

@@ -25,7 +25,7 @@ public final class ModelTest {
         for (int seed = 0; seed < 200; seed++) {
             new ModelTest(seed, 2 + seed % 4, 150 + 50 * (seed % 12), 5).run(seed);
         }
-        for (int seed = 200; seed < 230; seed++) {
+        for (int seed = 200; seed < 210; seed++) {
             new ModelTest(seed, 7, seed % 2 == 0 ? 700 : 3000, 2).run(seed);
         }
         CHECK.end();

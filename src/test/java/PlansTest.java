@@ -27,7 +27,7 @@ public final class PlansTest {
     }
 
     public static void main(String[] args) {
-        for (int seed = 0; seed < 60; seed++) {
+        for (int seed = 0; seed < 200; seed++) {
             new PlansTest(seed).run("seed " + seed + ": ");
         }
         CHECK.end();
