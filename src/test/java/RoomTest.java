@@ -3,20 +3,27 @@ import java.lang.management.ManagementFactory;
 /** All calls of a run live in one room: a call that does not throw makes no objects. */
 public final class RoomTest {
     private static final Check CHECK = new Check("RoomTest");
-    private static final int CALLS = 512;
+    private static final int DESKS = 25;
+    /** With the calls that make it crowded, a desk is used for less than 512 calls. */
+    private static final int ROUNDS = 22;
     /** What measuring may cost by itself; an array or object a call would be far above it. */
     private static final long MEASURING = 4096;
 
     public static void main(String[] args) {
-        RunwayDesk desk = crowded();
-        int answers = allCalls(desk);
+        RunwayDesk[] desks = new RunwayDesk[DESKS];
+        for (int i = 0; i < DESKS; i++) {
+            desks[i] = crowded();
+        }
+        int answers = allCalls(crowded());
         long before = allocated();
-        for (int call = 0; call < CALLS; call++) {
-            answers += allCalls(desk);
+        for (RunwayDesk desk : desks) {
+            for (int round = 0; round < ROUNDS; round++) {
+                answers += allCalls(desk);
+            }
         }
         long made = allocated() - before;
         CHECK.isTrue("the calls answered", answers != 0);
-        CHECK.isTrue(CALLS + " rounds of calls made " + made + " bytes", made <= MEASURING);
+        CHECK.isTrue(DESKS * ROUNDS + " rounds of calls made " + made + " bytes", made <= MEASURING);
         CHECK.end();
     }
 
