@@ -27,7 +27,7 @@ public final class PlansTest {
     }
 
     public static void main(String[] args) {
-        for (int seed = 0; seed < 200; seed++) {
+        for (int seed = 0; seed < 800; seed++) {
             new PlansTest(seed).run("seed " + seed + ": ");
         }
         CHECK.end();
@@ -70,6 +70,20 @@ public final class PlansTest {
         int limit = random.nextInt(4);
         desk.limit(limit);
         naive.limit(limit);
+        for (int m = 0; m < MOVEMENTS; m++) {
+            if (random.nextInt(4) == 0) {
+                freeze(m, early[m] + random.nextInt(late[m] - early[m] + 1));
+            }
+        }
+    }
+
+    private void freeze(int m, int second) {
+        try {
+            naive.freeze(m, second);
+        } catch (IllegalStateException closedOrTooNear) {
+            return;
+        }
+        desk.freeze(m, second);
     }
 
     private void tryPlans(int[] seconds, int m) {
